@@ -1138,7 +1138,7 @@ public final class UtilityBoard {
             return length + tallest;
         }
 
-        /** Finds THE LEAST: its length in shortest, its PIECES in row. The last answer is kept, as it is asked piece by piece. */
+        /** Finds THE LEAST: its length in shortest, its PIECES in row. They are kept, being asked one by one. */
         void search(Thing asked, int clothWidth) {
             if (coat == asked && width == clothWidth && pieces == asked.pieces) {
                 return;
@@ -1458,11 +1458,13 @@ public final class UtilityBoard {
         }
 
         private boolean take(char sign) {
-            if (here() != sign) {
-                return fail(MISPLACED);
+            boolean stands = at < end && text[at] == sign;
+            if (stands) {
+                at++;
+            } else {
+                fault = -1000 * MISPLACED - at;
             }
-            at++;
-            return true;
+            return stands;
         }
 
         private boolean fail(int kind) {
@@ -1625,16 +1627,12 @@ public final class UtilityBoard {
                     push(left * right);
                     break;
                 default:
-                    divide(sign, left, right);
+                    if (right == 0) {
+                        refused = true;
+                    } else {
+                        push(sign == '/' ? left / right : left % right);
+                    }
                     break;
-            }
-        }
-
-        private void divide(int sign, int left, int right) {
-            if (right == 0) {
-                refused = true;
-            } else {
-                push(sign == '/' ? left / right : left % right);
             }
         }
 
