@@ -640,7 +640,7 @@ public final class UtilityBoard {
     private int numberOnTape(int place) {
         int number = 0;
         for (int i = 4 * place; i < 4 * place + 4 && i < MOST_TAPE; i++) {
-            number = number << 8 | tape[i] & 255;
+            number = (number << 8) | (tape[i] & 255);
         }
         return number;
     }
@@ -727,7 +727,7 @@ public final class UtilityBoard {
 
     private boolean isInTown(int set, int town) {
         for (int m = 0; m < makers.size(); m++) {
-            if ((set >> m & 1) == 1 && makers.get(m).town == town) {
+            if (((set >> m) & 1) == 1 && makers.get(m).town == town) {
                 return true;
             }
         }
@@ -742,10 +742,10 @@ public final class UtilityBoard {
         for (int i = 0; i < makers.size(); i++) {
             int m = byRate[i];
             Maker maker = makers.get(m);
-            if ((told >> m & 1) == 1) {
+            if (((told >> m) & 1) == 1) {
                 free += maker.hands;
             }
-            if ((set >> m & 1) == 1) {
+            if (((set >> m) & 1) == 1) {
                 int makes = Math.min(maker.plant, still);
                 used += roundedUp(makes, maker.rate);
                 still -= makes;
@@ -1043,7 +1043,7 @@ public final class UtilityBoard {
         private int greatestLoad(int set) {
             int most = 0;
             for (int i = 0; i < loads; i++) {
-                if ((set >> loadJoints[i] & 1) == 1) {
+                if (((set >> loadJoints[i]) & 1) == 1) {
                     most = Math.max(most, loadPounds[i]);
                 }
             }
@@ -1053,7 +1053,7 @@ public final class UtilityBoard {
         private int sticksOutOf(int set) {
             int out = 0;
             for (int s = 0; s < sticks; s++) {
-                if ((set >> oneEnd[s] & 1) != (set >> otherEnd[s] & 1)) {
+                if (((set >> oneEnd[s]) & 1) != ((set >> otherEnd[s]) & 1)) {
                     out |= 1 << s;
                 }
             }
@@ -1077,7 +1077,7 @@ public final class UtilityBoard {
 
         private void takeFromCuts(int stick, int pounds) {
             for (int c = 0; c < cuts; c++) {
-                if ((cutSticks[c] >> stick & 1) == 1) {
+                if (((cutSticks[c] >> stick) & 1) == 1) {
                     cutSpare[c] -= pounds;
                 }
             }
@@ -1112,7 +1112,7 @@ public final class UtilityBoard {
             }
             int met = 0;
             for (int i = 0; i < n; i++) {
-                if (!within(order[i], 0, n - 1) || (met >> order[i] & 1) == 1) {
+                if (!within(order[i], 0, n - 1) || ((met >> order[i]) & 1) == 1) {
                     return false;
                 }
                 met |= 1 << order[i];
@@ -1158,7 +1158,7 @@ public final class UtilityBoard {
             tallestOfSet[0] = 0;
             for (int set = 1; set < 1 << pieces; set++) {
                 int p = Integer.numberOfTrailingZeros(set);
-                int others = set & set - 1;
+                int others = set & (set - 1);
                 widthOfSet[set] = widthOfSet[others] + asked.widths[p];
                 tallestOfSet[set] = Math.max(tallestOfSet[others], asked.lengths[p]);
             }
@@ -1171,11 +1171,11 @@ public final class UtilityBoard {
         private void shortenSets(int clothWidth) {
             shortestOfSet[0] = 0;
             for (int set = 1; set < 1 << pieces; set++) {
-                int others = set & set - 1;
+                int others = set & (set - 1);
                 int lowest = set ^ others;
                 int best = tallestOfSet[lowest] + shortestOfSet[others];
                 // From set to set among others, each a smaller number than the one before.
-                for (int more = others; more > 0; more = more - 1 & others) {
+                for (int more = others; more > 0; more = (more - 1) & others) {
                     int together = lowest | more;
                     if (widthOfSet[together] <= clothWidth) {
                         best = Math.min(best, tallestOfSet[together] + shortestOfSet[others ^ more]);
@@ -1191,9 +1191,9 @@ public final class UtilityBoard {
                 return rest == 0;
             }
             for (int p = 0; p < asked.pieces; p++) {
-                if ((rest >> p & 1) == 1) {
+                if (((rest >> p) & 1) == 1) {
                     boolean fits = asked.widths[p] <= left;
-                    int behind = rest ^ 1 << p;
+                    int behind = rest ^ (1 << p);
                     int closedThen = fits ? closed : closed + tallest;
                     int leftThen = (fits ? left : width) - asked.widths[p];
                     int tallestThen = Math.max(fits ? tallest : 0, asked.lengths[p]);
@@ -1210,7 +1210,7 @@ public final class UtilityBoard {
         /** No order of the rest makes the ROW at hand and those behind it shorter together than this. */
         private int atLeast(int rest, int left, int tallest) {
             int best = tallest + shortestOfSet[rest];
-            for (int more = rest; more > 0; more = more - 1 & rest) {
+            for (int more = rest; more > 0; more = (more - 1) & rest) {
                 if (widthOfSet[more] <= left) {
                     best = Math.min(best, Math.max(tallest, tallestOfSet[more]) + shortestOfSet[rest ^ more]);
                 }
@@ -1474,7 +1474,7 @@ public final class UtilityBoard {
 
         private boolean emit(int sign, int number) {
             if (size < code.length) {
-                code[size] = number << 8 | sign;
+                code[size] = (number << 8) | sign;
                 size++;
             }
             return true;
@@ -1484,7 +1484,7 @@ public final class UtilityBoard {
         private void leadHere(char sign, int from) {
             for (int i = from; i < size; i++) {
                 if (code[i] == sign) {
-                    code[i] = size << 8 | sign;
+                    code[i] = (size << 8) | sign;
                 }
             }
         }
@@ -1562,7 +1562,7 @@ public final class UtilityBoard {
         }
 
         private boolean counts(int i, int j, char letter) {
-            return (counting[i] >> j & 1) == 1 && orders.get(i).letters[j] == letter;
+            return ((counting[i] >> j) & 1) == 1 && orders.get(i).letters[j] == letter;
         }
 
         private boolean holds(Order order, int clause) {

@@ -20,16 +20,18 @@ public final class AgainstNaiveTest {
     private final List<String> calls = new ArrayList<>();
     private final int wildness;
     private final int mostPieces;
+    private final boolean seldomBars;
     private String wrong = null;
 
     private AgainstNaiveTest(long seed, int mostPieces) {
         random = new Random(seed);
-        wildness = random.nextInt(3) == 0 ? 4 : 25;
+        wildness = random.nextInt(4) == 0 ? 4 : 40;
+        seldomBars = flip();
         this.mostPieces = mostPieces;
     }
 
     public static void main(String[] args) {
-        int runs = args.length > 0 ? Integer.parseInt(args[0]) : 400;
+        int runs = args.length > 0 ? Integer.parseInt(args[0]) : 1500;
         int bad = 0;
         long done = 0;
         Map<String, Integer> answers = new HashMap<>();
@@ -63,9 +65,33 @@ public final class AgainstNaiveTest {
     }
 
     private void go(Map<String, Integer> answers) {
-        int focus = random.nextInt(6);
+        int focus = random.nextInt(7);
+        found(answers);
         while (calls.size() < MOST_CALLS && wrong == null) {
             act(random.nextInt(100), calls.size() < 60 ? 0 : focus, answers);
+        }
+    }
+
+    /** A land to begin with, so that few calls ask for what is not there. */
+    private void found(Map<String, Integer> a) {
+        for (int i = 0; i < 2 + random.nextInt(3); i++) {
+            call(a, "cloth", 100 + random.nextInt(900), 1 + random.nextInt(20), 1 + random.nextInt(80));
+        }
+        for (int i = 0; i < 1 + random.nextInt(2); i++) {
+            call(a, "drawing", 2 + random.nextInt(7));
+        }
+        for (int i = 0; i < 3 + random.nextInt(4); i++) {
+            int kind = i % 3;
+            call(a, "thing", kind, kind == 2 ? -1 : 0, random.nextInt(10), 1 + random.nextInt(90));
+        }
+        for (int i = 0; i < 2 + random.nextInt(5); i++) {
+            call(a, "maker", random.nextInt(8), 1 + random.nextInt(900), random.nextInt(90), 1 + random.nextInt(20),
+                random.nextInt(60));
+            call(a, "yards", i, random.nextInt(2), 1 + random.nextInt(10000));
+            call(a, "named", i, flip());
+        }
+        for (int i = 0; i < 2 + random.nextInt(3); i++) {
+            call(a, "person", random.nextInt(1000));
         }
     }
 
@@ -77,6 +103,9 @@ public final class AgainstNaiveTest {
         Object got = invoke(OURS.get(name), board, args);
         Object want = invoke(NAIVE.get(name), naive, args);
         String group = want instanceof Integer && (Integer) want >= 0 ? "0 or more" : String.valueOf(want);
+        if (group.length() > 3 && group.startsWith("-")) {
+            group = name.equals("order") ? group.substring(0, 2) + "..." : "below 0";
+        }
         answers.merge(name + " -> " + group, 1, Integer::sum);
         if (!want.equals(got)) {
             wrong = calls.get(calls.size() - 1) + " answered " + got + ", due is " + want + " after " + calls;
@@ -138,12 +167,15 @@ public final class AgainstNaiveTest {
                     trade(a);
                     break;
                 case 4:
+                case 5:
                     tellOrder(a);
                     call(a, "number", pick(0, 5), one(naive.things), noneOr(one(naive.makers)), week(), week());
+                    call(a, "why", one(naive.things), one(naive.makers), pick(0, 1));
                     call(a, "beside", noneOr(one(naive.orders)));
                     break;
                 default:
-                    call(a, "needs", told(), told(), pieces());
+                    int told = told();
+                    call(a, "needs", told, random.nextInt(8) == 0 ? told() : told & random.nextInt(), pieces());
                     call(a, "fewest", told(), pieces(), noneOr(pick(0, 7)));
                     break;
             }
@@ -152,7 +184,10 @@ public final class AgainstNaiveTest {
 
     private int told() {
         int all = (1 << naive.makers.size()) - 1;
-        return random.nextInt(12) == 0 ? random.nextInt() : random.nextInt(4096) & all & (flip() ? random.nextInt() : -1);
+        if (random.nextInt(12) == 0) {
+            return random.nextInt();
+        }
+        return random.nextInt(4096) & all & (flip() ? random.nextInt() : -1);
     }
 
     private int pieces() {
@@ -214,7 +249,6 @@ public final class AgainstNaiveTest {
     }
 
     private void ask(int which, Map<String, Integer> a) {
-        String[] oneThing = {"falsely"};
         switch (which) {
             case 0:
             case 1:
@@ -222,7 +256,8 @@ public final class AgainstNaiveTest {
             case 3:
                 int asked = pick(0, 5);
                 boolean none = asked == 2;
-                call(a, "number", asked, none ? -1 : one(naive.things), none ? -1 : noneOr(one(naive.makers)), week(), week());
+                int maker = none ? -1 : noneOr(one(naive.makers));
+                call(a, "number", asked, none ? -1 : one(naive.things), maker, week(), week());
                 break;
             case 4:
             case 5:
@@ -238,7 +273,7 @@ public final class AgainstNaiveTest {
                 call(a, "waits", one(naive.dockets), flip() ? pick(1, 3) : pick(1, 100));
                 break;
             case 9:
-                call(a, oneThing[0], one(naive.things));
+                call(a, "falsely", one(naive.things));
                 break;
             case 10:
                 call(a, "isTrue", one(naive.cloths), week());
@@ -259,7 +294,9 @@ public final class AgainstNaiveTest {
                 checkShops(a);
                 break;
             case 16:
-                call(a, "look", flip() ? one(naive.persons) : 100 + one(naive.makers), pick(0, flip() ? 2 : naive.cloths.size()));
+                boolean ofPerson = flip();
+                int who = ofPerson ? one(naive.persons) : 100 + one(naive.makers);
+                call(a, "look", who, pick(0, ofPerson ? 1 : naive.cloths.size()));
                 break;
             case 17:
                 int[] from = {0, 20, 100, 200};
@@ -343,7 +380,7 @@ public final class AgainstNaiveTest {
         switch (random.nextInt(9)) {
             case 0:
             case 1:
-                call(a, "makes", one(naive.makers), x, flip() ? pick(1, 3) : pick(1, 10000), flip());
+                call(a, "makes", one(naive.makers), x, random.nextInt(5) > 0 ? pick(1, 3) : pick(1, 10000), flip());
                 break;
             case 2:
             case 3:
@@ -378,7 +415,8 @@ public final class AgainstNaiveTest {
                 int four = 0;
                 for (int k = 0; k < 4; k++) {
                     int at = i + 4 * j + k;
-                    four = four << 8 | (at < bytes.length ? bytes[at] & 255 : random.nextInt(3) == 0 ? random.nextInt(256) : 0);
+                    int filler = random.nextInt(3) == 0 ? random.nextInt(256) : 0;
+                    four = four << 8 | (at < bytes.length ? bytes[at] & 255 : filler);
                 }
                 five[j] = four;
             }
@@ -425,7 +463,7 @@ public final class AgainstNaiveTest {
             bytes[i] = (byte) text.charAt(i);
         }
         feedBytes(bytes, a);
-        int from = week();
+        int from = random.nextInt(3) == 0 ? week() : random.nextInt(naive.now + 1);
         int to = random.nextInt(3) == 0 ? week() : 499;
         call(a, "order", from, to, random.nextInt(20) == 0 ? pick(1, 160) : length);
     }
@@ -453,22 +491,27 @@ public final class AgainstNaiveTest {
     }
 
     private String clause() {
-        char letter = "bbbmmmppccgddxx".charAt(random.nextInt(15));
-        if (letter == 'x') {
-            return "x" + number(Math.max(2, Math.min(31, naive.orders.size() + 1))) + "." + number(random.nextInt(3) == 0 ? 13 : 3);
+        char letter = "bbbmmmppccggddxx".charAt(random.nextInt(16));
+        if (letter == 'b' && seldomBars && random.nextInt(5) > 0) {
+            letter = 'm';
         }
-        String n = letter == 'b' || letter == 'm' ? "" : number(letter == 'd' ? 102 : flip() ? 60 : 99999);
-        return letter + n + "(" + condition(1 + random.nextInt(4)) + ")";
+        if (letter == 'x') {
+            int orders = Math.max(2, Math.min(31, naive.orders.size() + 1));
+            return "x" + number(orders) + "." + number(random.nextInt(9) == 0 ? 13 : 3);
+        }
+        int below = letter == 'd' ? 102 : random.nextInt(4) > 0 ? 9 : 99999;
+        String n = letter == 'b' || letter == 'm' ? "" : number(below);
+        return letter + n + "(" + condition(1 + random.nextInt(6)) + ")";
     }
 
     private String number(int below) {
         String n = Integer.toString(random.nextInt(below));
-        return random.nextInt(8) == 0 ? "0" + n : n;
+        return random.nextInt(30) == 0 ? "0" + n : n;
     }
 
     private String condition(int depth) {
         StringBuilder c = new StringBuilder(piece(depth));
-        while (random.nextInt(3) == 0) {
+        while (random.nextInt(4) == 0) {
             c.append(flip() ? "&" : "|").append(piece(depth));
         }
         return c.toString();
@@ -498,6 +541,9 @@ public final class AgainstNaiveTest {
         if (depth > 0 && dice == 0) {
             return "[" + sum(depth - 1) + "]";
         }
-        return dice < 4 ? number(random.nextInt(4) == 0 ? 99999 : 4) : "" + "wknqiatjh".charAt(random.nextInt(9));
+        if (dice < 4) {
+            return number(random.nextInt(4) == 0 ? 99999 : 4);
+        }
+        return "" + "wknqiatjh".charAt(random.nextInt(9));
     }
 }

@@ -116,7 +116,8 @@ public final class LanguageTest {
         }
         Matcher imports = Pattern.compile("import ([^;]+);").matcher(bare);
         while (imports.find()) {
-            Due.due(imports.group(), Set.of("java.util.ArrayList", "java.util.Arrays").contains(imports.group(1)), true);
+            boolean listed = Set.of("java.util.ArrayList", "java.util.Arrays").contains(imports.group(1));
+            Due.due(imports.group(), listed, true);
         }
         methodLengths(bare);
     }

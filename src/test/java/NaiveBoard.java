@@ -309,10 +309,10 @@ final class NaiveBoard {
     }
 
     int maker(int town, int plant, int hands, int rate, int hire) {
-        if (!in(town, 0, 7) || !in(plant, 1, 10000) || !in(hands, 0, 1000) || !in(rate, 1, 100) || !in(hire, 0, 10000)) {
+        if (!in(town, 0, 7) || !in(plant, 1, 10000) || !in(hands, 0, 1000) || !in(rate, 1, 100)) {
             return NONE;
         }
-        if (makers.size() == 12) {
+        if (!in(hire, 0, 10000) || makers.size() == 12) {
             return NONE;
         }
         makers.add(new int[] {town, plant, hands, rate, hire});
@@ -351,7 +351,10 @@ final class NaiveBoard {
     }
 
     int order(int from, int to, int n) {
-        if (!in(from, 0, 499) || !in(to, 0, 499) || from > to || !in(n, 1, 160) || orders.size() == 30 || tape.size() < n) {
+        if (!in(from, 0, 499) || !in(to, 0, 499) || from > to) {
+            return NONE;
+        }
+        if (!in(n, 1, 160) || orders.size() == 30 || tape.size() < n) {
             return NONE;
         }
         StringBuilder text = new StringBuilder();
@@ -637,7 +640,8 @@ final class NaiveBoard {
                     String s = orders.get(o).clauses[c];
                     if (s.startsWith("x")) {
                         String[] two = s.substring(1).split("\\.");
-                        if (Integer.parseInt(two[0]) == i && Integer.parseInt(two[1]) == j && !struck(o, c, week, t, without)) {
+                        boolean hits = Integer.parseInt(two[0]) == i && Integer.parseInt(two[1]) == j;
+                        if (hits && !struck(o, c, week, t, without)) {
                             return true;
                         }
                     }

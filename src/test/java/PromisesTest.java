@@ -156,7 +156,8 @@ public final class PromisesTest {
         UtilityBoard b = new UtilityBoard();
         due("no drawing", b.load(0, 1, 1), false);
         b.drawing(3);
-        int[][] wrong = {{1, 1, 1}, {-1, 1, 1}, {0, 0, 1}, {0, 3, 1}, {0, -1, 1}, {0, 1, 0}, {0, 1, 501}, {0, LOW, HIGH}};
+        int[][] wrong = {{1, 1, 1}, {-1, 1, 1}, {0, 0, 1}, {0, 3, 1}, {0, -1, 1}, {0, 1, 0}, {0, 1, 501},
+            {0, LOW, HIGH}};
         for (int[] w : wrong) {
             due("wrong load", b.load(w[0], w[1], w[2]), false);
         }
