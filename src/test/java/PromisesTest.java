@@ -325,6 +325,8 @@ public final class PromisesTest {
     private static void promise12() {
         UtilityBoard b = town();
         due("no pieces", b.least(0, 1, NONE), 0);
+        due("no pieces on width 0", b.least(0, 0, NONE), NONE);
+        due("no pieces on width 201", b.least(0, 201, NONE), NONE);
         due("no piece 0", b.least(0, 1, 0), NONE);
         int[][] pieces = {{10, 20}, {30, 20}, {10, 20}, {30, 20}};
         for (int[] p : pieces) {
