@@ -2,8 +2,14 @@
 final class Due {
     private static int right = 0;
     private static int wrong = 0;
+    private static String about = "";
 
     private Due() {
+    }
+
+    /** What the answers that follow are about: told before each of those that were not given. */
+    static void about(String what) {
+        about = what;
     }
 
     static void due(String call, long got, long want) {
@@ -11,7 +17,7 @@ final class Due {
             right++;
         } else {
             wrong++;
-            System.out.println(call + " answered " + got + ", due is " + want);
+            System.out.println(about + call + " answered " + got + ", due is " + want);
         }
     }
 
