@@ -594,6 +594,13 @@ public final class PromiseBoundaryTest {
         }
         due("no MAKER 2", b.why(2, 2, 0), NONE);
         due("no what 2", b.why(2, 1, 2), NONE);
+        Due.order(emptyTape(b), 0, 499, "b(w=w)");
+        due("all are barred", b.why(0, 0, 0), 2);
+        for (int v : wrong) {
+            due("barred, but no THING " + v, b.why(v, 0, 0), NONE);
+            due("barred, but no MAKER " + v, b.why(0, v, 0), NONE);
+            due("barred, but no what " + v, b.why(0, 0, v), NONE);
+        }
     }
 
     private static void promise20Makes() {

@@ -375,6 +375,9 @@ public final class TermsBoundaryTest {
         laid(b, 200, 11, 2, 1, 0);
         UtilityBoard thin = coat(60, 1);
         laid(thin, 1, 60, 0);
+        UtilityBoard wide = coat(1, 60, 1, 1);
+        laid(wide, 60, 2, 0, 1);
+        laid(wide, 59, -2, 0, 1);
         Due.feed(thin, 0);
         due("WIDTH 0", thin.laid(0, 0, 1), NONE);
         due("WIDTH 201", thin.laid(0, 201, 1), NONE);
@@ -410,6 +413,8 @@ public final class TermsBoundaryTest {
         least(nine, 60, 540, 0, 1, 2, 3, 4, 5, 6, 7, 8);
         least(nine, 200, 180, 0, 1, 2, 3, 4, 5, 6, 7, 8);
         due("no PIECE at 9", nine.least(0, 60, 9), NONE);
+        due("the first is wider", coat(1, 60, 1, 1).least(0, 59, NONE), NONE);
+        due("the last is wider", coat(1, 1, 1, 60).least(0, 59, NONE), NONE);
         due("one is wider", nine.least(0, 59, NONE), NONE);
         due("of that no PIECE", nine.least(0, 59, 0), NONE);
     }
@@ -927,7 +932,24 @@ public final class TermsBoundaryTest {
         b.maker(0, 2, 9, 2, 0);
         b.maker(0, 1, 9, 2, 0);
         due("the lowest first: 2, then none", b.needs(96, 96, 2), 1);
+        eightRates();
         most();
+    }
+
+    /** Told from the least RATE on and from the greatest on, they work from the greatest on. */
+    private static void eightRates() {
+        for (int up = 0; up < 2; up++) {
+            UtilityBoard b = new UtilityBoard();
+            for (int i = 0; i < 8; i++) {
+                b.maker(0, 60, 1000, up == 1 ? 1 + i : 8 - i, 0);
+            }
+            int hands = 0;
+            for (int rate = 8; rate > 0; rate--) {
+                hands += (60 + rate - 1) / rate;
+                due("the " + (9 - rate) + " greatest RATES", b.needs(255, 255, 60 * (9 - rate)), hands);
+                due("and one piece more", b.needs(255, 255, 60 * (9 - rate) + 1), rate == 1 ? -2 : hands + 1);
+            }
+        }
     }
 
     private static void most() {
