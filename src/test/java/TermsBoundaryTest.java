@@ -409,6 +409,17 @@ public final class TermsBoundaryTest {
         // With PIECE 0 first, only 1 may come next, or its ROW would be one of three.
         least(coat(9, 10, 9, 10, 1, 20), 20, 10, 0, 1, 2);
         least(coat(9, 10, 1, 20, 9, 10), 20, 10, 0, 2, 1);
+        // PIECE 0 must be the last: what comes behind it would slip into its ROW.
+        least(coat(1, 10, 5, 10, 5, 10), 20, 6, 1, 2, 0);
+        UtilityBoard two = coat(9, 10, 9, 10);
+        two.thing(0, 0, 0, 1);
+        two.piece(1, 1, 20);
+        two.piece(1, 7, 20);
+        due("of one THING", two.least(0, 20, NONE), 9);
+        due("of another of like many PIECES", two.least(1, 20, NONE), 8);
+        two.piece(1, 7, 20);
+        due("with one PIECE more", two.least(1, 20, NONE), 15);
+        due("on another WIDTH", two.least(1, 40, NONE), 8);
         UtilityBoard nine = coat(60, 60, 60, 60, 60, 60, 60, 60, 60, 60, 60, 60, 60, 60, 60, 60, 60, 60);
         least(nine, 60, 540, 0, 1, 2, 3, 4, 5, 6, 7, 8);
         least(nine, 200, 180, 0, 1, 2, 3, 4, 5, 6, 7, 8);
@@ -548,6 +559,30 @@ public final class TermsBoundaryTest {
         b.load(0, 1, 481);
         due("no choice", b.cheapest(0, NONE), NONE);
         due("no choice for the last STICK", b.cheapest(0, 7), NONE);
+        cheapestRow();
+        // One JOINT hangs on another; what it did not bear before says nothing of what it may bear then.
+        b.drawing(4);
+        b.stick(1, 1, 3, 0);
+        b.stick(1, 3, 0, 0);
+        b.load(1, 1, 10);
+        b.load(1, 3, 30);
+        due("30 by a thin one", b.bears(1), 0);
+        b.load(1, 1, 40);
+        due("40 by two thick ones", b.cheapest(1, NONE), 18);
+    }
+
+    /** Thin first there are 10 inches, middling first 8: 35 pounds go by one STICK and by two in a chain. */
+    private static void cheapestRow() {
+        UtilityBoard b = new UtilityBoard();
+        b.drawing(3);
+        b.stick(0, 1, 0, 0);
+        b.stick(0, 1, 2, 0);
+        b.stick(0, 2, 0, 0);
+        b.load(0, 1, 35);
+        due("fewest inches before the least row", b.cheapest(0, NONE), 8);
+        for (int i = 0; i < 3; i++) {
+            due("STICK " + i, b.cheapest(0, i), i == 0 ? 1 : 0);
+        }
     }
 
     private static void section3Rubbed() {

@@ -384,6 +384,19 @@ public final class TextBoundaryTest {
         due("refused in WEEK 0", b.number(0, 0, NONE, 0, 0), 5);
         due("not refused, not 0 in WEEK 1", b.number(0, 0, NONE, 1, 0), 5);
         due("not refused in WEEK 2", b.number(0, 0, NONE, 2, 0), 6);
+        manyRefused();
+    }
+
+    /** What was refused leaves nothing behind that another C would find. */
+    private static void manyRefused() {
+        UtilityBoard b = land();
+        Due.order(b, 0, 499, "b(!(1+[2+[3+4/0]]=0))");
+        Due.order(b, 0, 499, "p7(w+1=5)");
+        for (int i = 0; i < 200; i++) {
+            due("refused", b.number(5, 0, NONE, 2, 0), 0);
+        }
+        due("another C on WEEK 4", b.number(0, 0, NONE, 4, 0), 7);
+        due("another C on WEEK 5", b.number(0, 0, NONE, 5, 0), 0);
     }
 
     private static void asMuchAsMatters() {
@@ -464,6 +477,18 @@ public final class TextBoundaryTest {
         mayFollow("b(w=w);", CLAUSES, false);
         fault("?b(?", 1, 0);
         fault("b(w=?;d101(", 1, 4);
+        theEndBeforeOtherBytes();
+    }
+
+    /** A TEXT ends with its n bytes, though the tape goes on with what could stand there. */
+    private static void theEndBeforeOtherBytes() {
+        String whole = "b(!(w+[1*2]=3)&w<4|w>5);x0.11;d100(w=1)";
+        for (int n = 1; n <= whole.length(); n++) {
+            UtilityBoard b = new UtilityBoard();
+            Due.feed(b, whole.chars().toArray());
+            boolean stands = n == 23 || n == 28 || n == 29 || n == whole.length();
+            due("the first " + n + " of " + whole, b.order(0, 499, n), stands ? 0 : -1000 - n);
+        }
     }
 
     private static void fault2() {
